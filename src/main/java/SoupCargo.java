@@ -1021,7 +1021,7 @@ public final class SoupCargo {
 
         private boolean fail(int which) {
             faultKind = which;
-            faultPlace = within(current, places.length) ? places[current] : NONE;
+            faultPlace = current <= TAPE_MOST ? places[current] : NONE;
             return false;
         }
 
