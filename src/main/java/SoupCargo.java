@@ -747,7 +747,6 @@ public final class SoupCargo {
             if (lines < LINES_MOST) {
                 heads[lines] = head;
                 persons[lines] = person;
-                whens[lines] = used;
             }
         }
 
@@ -1421,12 +1420,13 @@ public final class SoupCargo {
             return true;
         }
 
+        /** A place that was not told is near to nothing, so it is never in the fewest. */
         int fewest(Stacks pile, int r) {
             findNeeded(pile, r);
             int best = NONE;
             for (int set = 0; set < SETS; set++) {
                 boolean fewer = best == NONE || Integer.bitCount(set) < Integer.bitCount(best);
-                if (fewer && isTold(set) && isFair(set)) {
+                if (fewer && isFair(set)) {
                     best = set;
                 }
             }
@@ -1452,15 +1452,6 @@ public final class SoupCargo {
                 }
             }
             return set & SETS - 1;
-        }
-
-        private boolean isTold(int set) {
-            for (int k = 0; k < MOST; k++) {
-                if ((set >> k & 1) == 1 && cells[k] == NONE) {
-                    return false;
-                }
-            }
-            return true;
         }
 
         private boolean isFair(int set) {

@@ -3,7 +3,7 @@ import java.util.Random;
 
 /** Long runs of calls by chance (the same each time), each answer held against the model's. */
 public final class ModelTest {
-    private static final int RUNS = 400;
+    private static final int RUNS = 200;
     private static final int CALLS = 500;
 
     private final Check check;

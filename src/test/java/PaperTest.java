@@ -196,6 +196,10 @@ public final class PaperTest {
         Check.code(cargo, "load 2 when day=0 and loaded=0 and swell=0 and port=1;");
         CHECK.due("all above 0", cargo.let(0, 0), 21 * 20 * 100);
         CHECK.due("the first above 0", cargo.let(0, 1), 10000);
+        CHECK.due("what 2 with ways", cargo.let(0, 2), -1);
+        CHECK.due("what -1 with ways", cargo.let(0, -1), -1);
+        CHECK.due("w 21 with ways", cargo.let(21, 0), -1);
+        CHECK.due("w -1 with ways", cargo.let(-1, 0), -1);
         CHECK.due("above 19", cargo.let(19, 0), 21 * 100);
         CHECK.due("above 20", cargo.let(20, 0), 0);
         CHECK.due("none above 20", cargo.let(20, 1), -1);

@@ -12,6 +12,7 @@ public final class ShipTest {
         leanToBothSides();
         goneByLean();
         goneByRoll();
+        limitAtFirst();
         theDraw();
         flowByHeight();
         flowToAFullColumn();
@@ -266,6 +267,27 @@ public final class ShipTest {
         held.hours(1);
         CHECK.due("gone in the first hour", held.ship(5), 0);
         heightsAre("no flow when gone by a roll", held, 0, 0, 0, 0, 2, 0);
+    }
+
+    /** A roll of 27 from 33 degrees is not above 60; from 34 it is. */
+    private static void limitAtFirst() {
+        int state = 0;
+        while ((1664525 * state + 1013904223) >>> 30 != 3) {
+            state++;
+        }
+        for (int degree = 33; degree <= 34; degree++) {
+            SoupCargo cargo = loaded("", 0, 0, 0, 0, 0, 1);
+            for (int k = 0; k < 4; k++) {
+                cargo.arm(k, 0);
+            }
+            // 200 * 500 by 2100 is 48 tenths: 3 times 16, or 4 times 12
+            cargo.arm(4, degree == 33 ? 16 : 12);
+            cargo.sky(0, 0, 9);
+            cargo.sail(state);
+            cargo.hours(1);
+            CHECK.due("LEAN", cargo.ship(4), degree);
+            CHECK.due("GONE at " + degree, cargo.ship(5), degree == 33 ? -1 : 0);
+        }
     }
 
     /** With nothing loaded she is gone in the first hour whose roll is above LIMIT. */

@@ -144,6 +144,18 @@ public final class TextTest {
         CHECK.lawFault("down we;", 1, 5);
         CHECK.lawFault("down Wet;", 1, 5);
         CHECK.lawFault("downX 1;", 1, 0);
+        CHECK.lawFault("downa 1;", 1, 0);
+        CHECK.lawFault("downz 1;", 1, 0);
+        CHECK.lawFault("downA 1;", 1, 0);
+        CHECK.lawFault("downZ 1;", 1, 0);
+        CHECK.lawFault("down{ 1;", 1, 4);
+        CHECK.lawFault("down@ 1;", 1, 4);
+        CHECK.lawFault("down[ 1;", 1, 4);
+        CHECK.lawFault("down` 1;", 1, 4);
+        CHECK.lawFault("down 1: 1;", 1, 6);
+        CHECK.lawFault(";".repeat(600), 1, 0);
+        CHECK.lawFault("dry 1;" + " ".repeat(593) + "?", 1, 599);
+        CHECK.lawFault("dry 1" + "+1".repeat(297) + "+", 1, 600);
         CHECK.lawFault("down wetwater;", 1, 5);
         CHECK.lawFault("down 5wet;", 1, 6);
         CHECK.lawFault("down 1 2;", 1, 7);
