@@ -1,24 +1,72 @@
+import java.io.IOException;
 import java.nio.charset.StandardCharsets;
+import java.nio.file.Files;
+import java.nio.file.Path;
 
 /** What the tests share: counting answers that are not as due, and feeding a text. */
 final class Check {
     private static final int SHOWN_MOST = 40;
+    private static final Path DOCUMENT = Path.of("../shared/DOC.md");
 
     private final String name;
     private int wrong;
     private int asked;
+    private String document;
+    private String sentence = "";
+    private int sentences;
+    private int askedBefore;
 
     Check(String name) {
         this.name = name;
     }
 
+    /**
+     * What follows is due by these words of the document. They must stand there, so that a test is not left behind
+     * when the document changes, and something must be asked by them.
+     */
+    void by(String words) {
+        endSentence();
+        sentence = words;
+        sentences++;
+        askedBefore = asked;
+        if (document == null) {
+            document = readDocument();
+        }
+        if (!document.isEmpty() && !document.contains(words)) {
+            tellWrong("no such words in the document: " + words);
+        }
+    }
+
+    private void endSentence() {
+        if (!sentence.isEmpty() && asked == askedBefore) {
+            tellWrong("nothing was asked by: " + sentence);
+        }
+    }
+
+    private static String readDocument() {
+        try {
+            return Files.exists(DOCUMENT) ? Files.readString(DOCUMENT) : "";
+        } catch (IOException e) {
+            return "";
+        }
+    }
+
+    private void tellWrong(String what) {
+        wrong++;
+        if (wrong <= SHOWN_MOST) {
+            System.out.println(name + ": " + what);
+        }
+    }
+
     void due(String call, long got, long want) {
+        due(call, Long.toString(got), Long.toString(want));
+    }
+
+    void due(String call, String got, String want) {
         asked++;
-        if (got != want) {
-            wrong++;
-            if (wrong <= SHOWN_MOST) {
-                System.out.println(name + ": " + call + " answered " + got + ", due is " + want);
-            }
+        if (!got.equals(want)) {
+            String why = sentence.isEmpty() ? "" : " by '" + sentence + "'";
+            tellWrong(call + " answered " + got + ", due is " + want + why);
         }
     }
 
@@ -35,7 +83,9 @@ final class Check {
     }
 
     void close() {
-        System.out.println(name + ": " + asked + " answers, " + wrong + " not as due");
+        endSentence();
+        String by = sentences == 0 ? "" : " by " + sentences + " sentences";
+        System.out.println(name + ": " + asked + " answers" + by + ", " + wrong + " not as due");
         if (wrong != 0 || asked == 0) {
             System.exit(1);
         }

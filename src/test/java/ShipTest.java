@@ -23,31 +23,8 @@ public final class ShipTest {
         CHECK.close();
     }
 
-    /** A ship with ores in the columns of hold 0 from port on, as many cells as told, each of 10 tons. */
-    private static SoupCargo loaded(String laws, int... heights) {
-        SoupCargo cargo = new SoupCargo();
-        CHECK.yes("laws " + laws, Check.laws(cargo, laws) >= 0);
-        for (int column = 0; column < heights.length; column++) {
-            for (int n = 0; n < heights[column]; n++) {
-                put(cargo, 0, column, 10, 0);
-            }
-        }
-        return cargo;
-    }
-
-    private static void put(SoupCargo cargo, int hold, int column, int ore, int water) {
-        CHECK.yes("heap", cargo.heap(7, 7, 0, ore, water));
-        CHECK.yes("load", cargo.load(7, 7, hold, column));
-    }
-
-    private static void heightsAre(String when, SoupCargo cargo, int... heights) {
-        for (int column = 0; column < heights.length; column++) {
-            int height = 0;
-            while (height < 6 && cargo.cell(0, column, 0, height, 0) > 0) {
-                height++;
-            }
-            CHECK.due(when + ": height of " + column, height, heights[column]);
-        }
+    private static void heightsAre(String when, SoupCargo cargo, String heights) {
+        CHECK.due(when + ": heights", Scene.heights(cargo), heights);
     }
 
     private static void loading() {
@@ -72,7 +49,7 @@ public final class ShipTest {
         CHECK.yes("on top", cargo.load(1, 2, 3, 5));
         CHECK.due("on top of it", cargo.cell(3, 5, 0, 1, 0), 10);
         for (int n = 2; n < 6; n++) {
-            put(cargo, 3, 5, 1, 0);
+            Scene.put(cargo, 3, 5, 1, 0);
         }
         cargo.heap(0, 0, 0, 9, 0);
         CHECK.no("a full column", cargo.load(0, 0, 3, 5));
@@ -83,7 +60,7 @@ public final class ShipTest {
         int[] arms = {-5, -3, -1, 1, 3, 5};
         for (int column = 0; column < 6; column++) {
             SoupCargo one = new SoupCargo();
-            put(one, column % 4, column, 1, 3);
+            Scene.put(one, column % 4, column, 1, 3);
             CHECK.due("MOMENT of column " + column, one.ship(2), 13 * arms[column]);
         }
     }
@@ -125,7 +102,7 @@ public final class ShipTest {
     }
 
     private static void nothingInPort() {
-        SoupCargo cargo = loaded("down 1; soup 1;", 0, 0, 0, 0, 1, 0);
+        SoupCargo cargo = Scene.loaded("down 1; soup 1;", 0, 0, 0, 0, 1, 0);
         cargo.heap(7, 7, 0, 10, 20);
         cargo.load(7, 7, 0, 4);
         cargo.sky(0, 5, 5);
@@ -135,15 +112,15 @@ public final class ShipTest {
         CHECK.due("no water goes down", cargo.cell(0, 4, 0, 1, 1), 20);
         CHECK.due("no well", cargo.ship(6), 0);
         CHECK.due("no lean", cargo.ship(4), 0);
-        heightsAre("no flow", cargo, 0, 0, 0, 0, 2, 0);
+        heightsAre("no flow", cargo, "000020");
     }
 
     private static void shakenAndWell() {
         SoupCargo cargo = new SoupCargo();
         Check.laws(cargo, "down shaken; sweat shaken;");
-        put(cargo, 2, 0, 10, 100);
-        put(cargo, 2, 0, 10, 50);
-        put(cargo, 2, 5, 10, 150);
+        Scene.put(cargo, 2, 0, 10, 100);
+        Scene.put(cargo, 2, 0, 10, 50);
+        Scene.put(cargo, 2, 5, 10, 150);
         cargo.sky(0, 9, 4);
         cargo.sky(1, 0, 9);
         cargo.arm(7, 90);
@@ -161,9 +138,9 @@ public final class ShipTest {
         CHECK.due("shaken by the day's swell", cargo.cell(2, 5, 0, 0, 3), 4 * 24 + 9);
         SoupCargo full = new SoupCargo();
         Check.laws(full, "down 100 when layer=1;");
-        put(full, 0, 0, 1, 9950);
-        put(full, 0, 0, 1, 100);
-        put(full, 0, 5, 1, 9999);
+        Scene.put(full, 0, 0, 1, 9950);
+        Scene.put(full, 0, 0, 1, 100);
+        Scene.put(full, 0, 5, 1, 9999);
         full.arm(7, 90);
         full.sail(0);
         full.hours(1);
@@ -172,7 +149,7 @@ public final class ShipTest {
     }
 
     private static void soupAndItsEnd() {
-        SoupCargo cargo = loaded("soup 1 when clock=0; soup 0-1;", 0, 0, 0, 0, 0, 2);
+        SoupCargo cargo = Scene.loaded("soup 1 when clock=0; soup 0-1;", 0, 0, 0, 0, 0, 2);
         cargo.sail(0);
         cargo.hours(1);
         CHECK.due("soup", cargo.ship(9), 2);
@@ -180,8 +157,8 @@ public final class ShipTest {
         cargo.hours(1);
         CHECK.due("no soup any more", cargo.ship(9), 0);
         CHECK.due("none of the cell", cargo.cell(0, 5, 0, 1, 4), 0);
-        SoupCargo after = loaded("down water; soup 1 when wet=0;", 0, 0, 0, 0, 0, 0);
-        put(after, 0, 5, 10, 100);
+        SoupCargo after = Scene.loaded("down water; soup 1 when wet=0;", 0, 0, 0, 0, 0, 0);
+        Scene.put(after, 0, 5, 10, 100);
         after.sail(0);
         after.hours(1);
         CHECK.due("soup is looked at after the water went down", after.ship(9), 1);
@@ -191,18 +168,18 @@ public final class ShipTest {
         for (int side = -1; side <= 1; side += 2) {
             SoupCargo cargo = new SoupCargo();
             // 500 of 2500 at arm 1: 20 * 500 = 10000 is an arm of 4, at 2 degrees
-            put(cargo, 1, side > 0 ? 3 : 2, 50, 0);
+            Scene.put(cargo, 1, side > 0 ? 3 : 2, 50, 0);
             cargo.sail(0);
             cargo.hours(1);
             CHECK.due("LEAN just so", cargo.ship(4), 2 * side);
             SoupCargo more = new SoupCargo();
-            put(more, 1, side > 0 ? 3 : 2, 50, 1);
+            Scene.put(more, 1, side > 0 ? 3 : 2, 50, 1);
             more.sail(0);
             more.hours(1);
             CHECK.due("LEAN a little more", more.ship(4), 3 * side);
         }
         SoupCargo stiff = new SoupCargo();
-        put(stiff, 0, 5, 1, 0);
+        Scene.put(stiff, 0, 5, 1, 0);
         stiff.arm(0, 99);
         stiff.sail(0);
         stiff.hours(1);
@@ -215,7 +192,7 @@ public final class ShipTest {
             Check.laws(cargo, "soup 1; down 1;");
             int high = side > 0 ? 4 : 1;
             for (int n = 0; n < 6; n++) {
-                put(cargo, 0, high, 99, 9000);
+                Scene.put(cargo, 0, high, 99, 9000);
             }
             cargo.sky(0, 0, 1);
             cargo.sail(7);
@@ -223,7 +200,7 @@ public final class ShipTest {
             cargo.hours(1);
             CHECK.due("LEAN", cargo.ship(4), 61 * side);
             CHECK.due("GONE", cargo.ship(5), 0);
-            heightsAre("no flow when gone", cargo, side > 0 ? new int[] {0, 0, 0, 0, 6, 0} : new int[] {0, 6, 0, 0, 0, 0});
+            heightsAre("no flow when gone", cargo, side > 0 ? "000060" : "060000");
             int well = cargo.ship(6);
             CHECK.due("well of the one hour", well, 1);
             cargo.hours(5);
@@ -242,8 +219,8 @@ public final class ShipTest {
     }
 
     private static void goneByRoll() {
-        SoupCargo cargo = loaded("soup 1;", 0, 0, 0, 0, 1, 0);
-        put(cargo, 0, 4, 90, 0);
+        SoupCargo cargo = Scene.loaded("soup 1;", 0, 0, 0, 0, 1, 0);
+        Scene.put(cargo, 0, 4, 90, 0);
         cargo.sail(0);
         cargo.hours(4);
         int lean = cargo.ship(4);
@@ -255,28 +232,25 @@ public final class ShipTest {
         cargo.hours(1);
         CHECK.due("above LIMIT", cargo.ship(5), 5);
         CHECK.due("LEAN is what it was", cargo.ship(4), lean);
-        SoupCargo port = loaded("", 0, 1, 0, 0, 0, 0);
+        SoupCargo port = Scene.loaded("", 0, 1, 0, 0, 0, 0);
         port.arm(7, 0);
         port.sail(0);
         port.hours(1);
         CHECK.yes("leans to port", port.ship(4) < 0);
         CHECK.due("gone by a lean to port", port.ship(5), 0);
-        SoupCargo held = loaded("soup 1;", 0, 0, 0, 0, 2, 0);
+        SoupCargo held = Scene.loaded("soup 1;", 0, 0, 0, 0, 2, 0);
         held.arm(7, 0);
         held.sail(0);
         held.hours(1);
         CHECK.due("gone in the first hour", held.ship(5), 0);
-        heightsAre("no flow when gone by a roll", held, 0, 0, 0, 0, 2, 0);
+        heightsAre("no flow when gone by a roll", held, "000020");
     }
 
     /** A roll of 27 from 33 degrees is not above 60; from 34 it is. */
     private static void limitAtFirst() {
-        int state = 0;
-        while ((1664525 * state + 1013904223) >>> 30 != 3) {
-            state++;
-        }
+        int state = Scene.stateBefore(3);
         for (int degree = 33; degree <= 34; degree++) {
-            SoupCargo cargo = loaded("", 0, 0, 0, 0, 0, 1);
+            SoupCargo cargo = Scene.loaded("", 0, 0, 0, 0, 0, 1);
             for (int k = 0; k < 4; k++) {
                 cargo.arm(k, 0);
             }
@@ -312,61 +286,61 @@ public final class ShipTest {
     }
 
     private static void flowByHeight() {
-        SoupCargo cargo = loaded("soup 1;", 0, 0, 0, 0, 3, 2);
+        SoupCargo cargo = Scene.loaded("soup 1;", 0, 0, 0, 0, 3, 2);
         cargo.sail(0);
         cargo.hours(1);
         CHECK.yes("LEAN below 10", cargo.ship(4) < 10);
-        heightsAre("one lower", cargo, 0, 0, 0, 0, 2, 3);
+        heightsAre("one lower", cargo, "000023");
         cargo.hours(1);
-        heightsAre("not upwards", cargo, 0, 0, 0, 0, 2, 3);
-        SoupCargo level = loaded("soup 1;", 0, 0, 0, 0, 2, 2);
+        heightsAre("not upwards", cargo, "000023");
+        SoupCargo level = Scene.loaded("soup 1;", 0, 0, 0, 0, 2, 2);
         level.sail(0);
         level.hours(1);
-        heightsAre("not to the same height", level, 0, 0, 0, 0, 2, 2);
-        SoupCargo steep = loaded("soup 1;", 0, 0, 0, 0, 2, 2);
+        heightsAre("not to the same height", level, "000022");
+        SoupCargo steep = Scene.loaded("soup 1;", 0, 0, 0, 0, 2, 2);
         steep.arm(1, 4);
         steep.sail(0);
         steep.hours(1);
         CHECK.yes("LEAN 10 or more", steep.ship(4) >= 10 && steep.ship(4) < 61);
-        heightsAre("to the same height", steep, 0, 0, 0, 0, 1, 3);
+        heightsAre("to the same height", steep, "000013");
         steep.hours(1);
-        heightsAre("not to a greater one", steep, 0, 0, 0, 0, 1, 3);
-        SoupCargo chain = loaded("soup 1;", 1, 1, 1, 1, 1, 2);
-        put(chain, 1, 5, 10, 0);
+        heightsAre("not to a greater one", steep, "000013");
+        SoupCargo chain = Scene.loaded("soup 1;", 1, 1, 1, 1, 1, 2);
+        Scene.put(chain, 1, 5, 10, 0);
         chain.arm(1, 1);
         chain.sail(0);
         chain.hours(1);
         CHECK.yes("LEAN 10 or more", chain.ship(4) >= 10 && chain.ship(4) < 61);
-        heightsAre("column by column from the low side", chain, 0, 1, 1, 1, 2, 2);
-        SoupCargo port = loaded("soup 1;", 0, 2, 2, 0, 0, 0);
+        heightsAre("column by column from the low side", chain, "011122");
+        SoupCargo port = Scene.loaded("soup 1;", 0, 2, 2, 0, 0, 0);
         port.sail(0);
         port.hours(1);
         CHECK.yes("LEAN to port", port.ship(4) < 0);
-        heightsAre("to port", port, 1, 2, 1, 0, 0, 0);
-        SoupCargo upright = loaded("soup 1;", 0, 1, 0, 0, 1, 0);
+        heightsAre("to port", port, "121000");
+        SoupCargo upright = Scene.loaded("soup 1;", 0, 1, 0, 0, 1, 0);
         upright.sail(0);
         upright.hours(2);
-        heightsAre("upright", upright, 0, 1, 0, 0, 1, 0);
-        SoupCargo dry = loaded("soup 1 when layer=0;", 0, 0, 0, 0, 2, 0);
+        heightsAre("upright", upright, "010010");
+        SoupCargo dry = Scene.loaded("soup 1 when layer=0;", 0, 0, 0, 0, 2, 0);
         dry.sail(0);
         dry.hours(1);
-        heightsAre("the top is no soup", dry, 0, 0, 0, 0, 2, 0);
+        heightsAre("the top is no soup", dry, "000020");
     }
 
     private static void flowToAFullColumn() {
-        SoupCargo cargo = loaded("soup 1;", 0, 0, 0, 0, 6, 6);
+        SoupCargo cargo = Scene.loaded("soup 1;", 0, 0, 0, 0, 6, 6);
         cargo.arm(1, 10);
         cargo.sail(0);
         cargo.hours(1);
         CHECK.yes("LEAN 10 or more", cargo.ship(4) >= 10 && cargo.ship(4) < 61);
-        heightsAre("no layer left", cargo, 0, 0, 0, 0, 6, 6);
+        heightsAre("no layer left", cargo, "000066");
         CHECK.due("none is lost", cargo.ship(8), 12);
     }
 
     private static void flowCarriesAll() {
-        SoupCargo cargo = loaded("soup 1 when ore=33;", 0, 0, 0, 0, 0, 0);
-        put(cargo, 3, 3, 10, 4);
-        put(cargo, 3, 3, 33, 17);
+        SoupCargo cargo = Scene.loaded("soup 1 when ore=33;", 0, 0, 0, 0, 0, 0);
+        Scene.put(cargo, 3, 3, 10, 4);
+        Scene.put(cargo, 3, 3, 33, 17);
         cargo.sky(0, 0, 3);
         cargo.sail(0);
         cargo.hours(1);
@@ -443,15 +417,15 @@ public final class ShipTest {
     }
 
     private static void reachTriesAlone() {
-        SoupCargo cargo = loaded("soup 1; down 1 when clock>1;", 0, 0, 1, 1, 0, 0);
-        put(cargo, 1, 3, 90, 50);
+        SoupCargo cargo = Scene.loaded("soup 1; down 1 when clock>1;", 0, 0, 1, 1, 0, 0);
+        Scene.put(cargo, 1, 3, 90, 50);
         cargo.sky(0, 1, 2);
         cargo.sky(1, 0, 9);
         cargo.arm(7, 26);
         int gone = goneHourOf(0, cargo);
         CHECK.yes("gone on the second day", gone >= 24);
-        SoupCargo other = loaded("soup 1; down 1 when clock>1;", 0, 0, 1, 1, 0, 0);
-        put(other, 1, 3, 90, 50);
+        SoupCargo other = Scene.loaded("soup 1; down 1 when clock>1;", 0, 0, 1, 1, 0, 0);
+        Scene.put(other, 1, 3, 90, 50);
         other.sky(0, 1, 2);
         other.sky(1, 0, 9);
         other.arm(7, 26);
