@@ -788,8 +788,8 @@ public final class SoupCargo {
 
         private int work(int from, int to, int[] values) {
             int top = FLOOR;
-            for (int i = Math.max(0, from); i < to && i < TAPE_MOST; i++) {
-                if (top < FLOOR || top >= DEEPEST) {
+            for (int i = from; i < to && i < TAPE_MOST; i++) {
+                if (i < 0 || top < FLOOR || top >= DEEPEST) {
                     return 0;
                 }
                 int step = steps[i] / ROOM;

@@ -7,6 +7,7 @@ public final class HeapEdgesTest {
     public static void main(String[] args) {
         atFirst();
         cellsAtFirst();
+        heightAndTop();
         dayAndClock();
         skyAtFirst();
         quotients();
@@ -61,6 +62,25 @@ public final class HeapEdgesTest {
         }
     }
 
+    private static void heightAndTop() {
+        CHECK.by("A COLUMN's HEIGHT is one more than the greatest LAYER that has ORE (0 without), its TOP the CELL there.");
+        for (int height = 0; height <= 4; height++) {
+            SoupCargo cargo = new SoupCargo();
+            for (int z = 0; z < height; z++) {
+                cargo.heap(2, 6, z, 10 + z, 0);
+            }
+            cargo.sky(0, 1, 0);
+            cargo.hours(1);
+            for (int z = 0; z < 4; z++) {
+                CHECK.due("rain at " + z + " of " + height, cargo.cell(NONE, 2, 6, z, 1), z == height - 1 ? 1 : 0);
+            }
+            CHECK.due("what is LOADED of " + height, cargo.load(2, 6, 0, 0) ? cargo.cell(0, 0, 0, 0, 0) : 0,
+                height == 0 ? 0 : 9 + height);
+        }
+        CHECK.by("The constants: `NONE = -1`: None.");
+        CHECK.due("NONE", NONE, -1);
+    }
+
     private static void dayAndClock() {
         CHECK.by("NOW is an HOUR 0 .. 719 (0 at first); its DAY is NOW by 24, its CLOCK NOW modulo 24.");
         SoupCargo cargo = Scene.withLaws("sweat clock;");
@@ -97,6 +117,11 @@ public final class HeapEdgesTest {
         CHECK.due("WET of 9999 by 99", cargo.cell(NONE, 0, 0, 0, 2), 101);
         cargo.heap(0, 0, 0, 2, 9999);
         CHECK.due("WET of 9999 by 2", cargo.cell(NONE, 0, 0, 0, 2), 4999);
+        SoupCargo law = Scene.withLaws("sweat wet;");
+        for (int ore : new int[] {1, 2, 3, 98, 99}) {
+            law.heap(0, 0, 0, ore, 9998);
+            CHECK.due("wet of 9998 by " + ore, law.told(3, NONE, 0, 0, 0), 9998 / ore);
+        }
         CHECK.by("its WET is 0 without ORE, else WATER by ORE.");
         CHECK.due("WET without ORE", cargo.cell(NONE, 0, 0, 1, 2), 0);
         CHECK.due("WET without ORE in a HOLD", cargo.cell(0, 0, 0, 0, 2), 0);

@@ -181,14 +181,14 @@ public final class HeapTest {
     }
 
     private static void sunByHalves() {
-        SoupCargo cargo = new SoupCargo();
-        Check.laws(cargo, "sweat lit*100+clock;");
-        for (int x = 0; x < 8; x++) {
-            cargo.heap(x, 1, 0, 1, 0);
-            cargo.heap(x, 1, 1, 1, 0);
-        }
-        cargo.load(0, 1, 0, 0);
         for (int hour = 0; hour < 48; hour++) {
+            SoupCargo cargo = Scene.withLaws("sweat lit*100+clock;");
+            for (int x = 0; x < 8; x++) {
+                cargo.heap(x, 1, 0, 1, 0);
+                cargo.heap(x, 1, 1, 1, 0);
+            }
+            cargo.load(0, 1, 0, 0);
+            Scene.passTo(cargo, hour);
             int clock = hour % 24;
             for (int x = 1; x < 8; x++) {
                 boolean lit = x <= 3 ? clock >= 6 && clock <= 11 : clock >= 12 && clock <= 17;
@@ -196,7 +196,6 @@ public final class HeapTest {
                 CHECK.due("under it " + x + " at " + hour, cargo.told(3, -1, x, 1, 0), clock);
             }
             CHECK.due("never in a hold at " + hour, cargo.told(3, 0, 0, 0, 0), clock);
-            cargo.hours(1);
         }
     }
 

@@ -1,10 +1,15 @@
 import java.nio.charset.StandardCharsets;
 import java.util.Random;
 
-/** Long runs of calls by chance (the same each time), each answer held against the model's. */
+/** Runs of 512 calls by chance (the same each time), each answer held against the model's. */
 public final class ModelTest {
-    private static final int RUNS = 200;
-    private static final int CALLS = 500;
+    private static final int RUNS = 400;
+    /** What later calls answer is free. */
+    private static final int CALLS = 512;
+    /** The most that one round of calls asks: a text that is fed, read and asked for its fault. */
+    private static final int ROUND = 40;
+    /** What is left for a look at cells and ship in the end. */
+    private static final int LOOK = 80;
 
     private final Check check;
     private final Random random;
@@ -12,13 +17,14 @@ public final class ModelTest {
     private final Model model = new Model();
     private final int seed;
     private final int lets;
+    private int asked;
 
     private ModelTest(Check check, int seed) {
         this.check = check;
         this.seed = seed;
         this.random = new Random(seed);
         // the model is slow at them, and the seeds that have them are enough
-        this.lets = seed % 8 == 0 ? 4 : 0;
+        this.lets = seed % 20 == 0 ? 4 : 0;
     }
 
     public static void main(String[] args) {
@@ -37,14 +43,15 @@ public final class ModelTest {
             load();
         }
         boolean sails = random.nextInt(4) > 0;
-        int sailsAt = random.nextInt(CALLS);
+        int sailsAt = asked + random.nextInt(200);
         int letsLeft = lets;
-        for (int i = 0; i < CALLS && check.wrongs() == 0; i++) {
-            if (sails && i == sailsAt) {
+        while (asked < CALLS - LOOK - ROUND && check.wrongs() == 0) {
+            if (sails && asked >= sailsAt) {
+                sails = false;
                 int state = random.nextInt();
                 due("sail", cargo.sail(state), model.sail(state));
             }
-            if (letsLeft > 0 && random.nextInt(60) == 0) {
+            if (letsLeft > 0 && random.nextInt(40) == 0) {
                 letsLeft--;
                 int w = upTo(20);
                 due("let 0", cargo.let(w, 0), model.let(w, 0));
@@ -52,10 +59,11 @@ public final class ModelTest {
             }
             call();
         }
-        compareAll();
+        look();
     }
 
     private void due(String call, int got, int want) {
+        asked++;
         check.due("seed " + seed + " " + call, got, want);
     }
 
@@ -251,20 +259,17 @@ public final class ModelTest {
         }
     }
 
-    private void compareAll() {
-        for (int hold = -1; hold < 4; hold++) {
-            for (int x = 0; x < 8; x++) {
-                for (int y = 0; y < (hold < 0 ? 8 : 1); y++) {
-                    for (int z = 0; z < 6; z++) {
-                        for (int what = 0; what < 5; what++) {
-                            due("cell at the end", cargo.cell(hold, x, y, z, what), model.cell(hold, x, y, z, what));
-                        }
-                    }
-                }
-            }
-        }
+    private void look() {
         for (int what = 0; what < 12; what++) {
             due("ship at the end " + what, cargo.ship(what), model.ship(what));
+        }
+        while (asked < CALLS) {
+            int hold = random.nextInt(5) - 1;
+            int x = random.nextInt(hold < 0 ? 8 : 6);
+            int y = random.nextInt(8);
+            int z = random.nextInt(hold < 0 ? 3 : 4);
+            int what = random.nextInt(5);
+            due("cell at the end", cargo.cell(hold, x, y, z, what), model.cell(hold, x, y, z, what));
         }
     }
 }

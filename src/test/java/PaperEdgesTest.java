@@ -553,9 +553,11 @@ public final class PaperEdgesTest {
         CHECK.due("5 by 15 is as much as 1 by 3", cargo.risk(NONE, NONE, NONE, 2), 5);
         cargo.list(7, 0, 0, true);
         CHECK.due("6 by 16 is above 1 by 3", cargo.risk(NONE, NONE, NONE, 2), 7);
+        cargo.list(0, 0, 0, true);
+        CHECK.due("2 by 3 of harbour 0", cargo.risk(NONE, NONE, NONE, 2), 0);
         CHECK.by("2 THE WORST HARBOUR (nothing of these asked). NONE if one can't be, there is none (for 2), or another what.");
-        CHECK.due("nothing of these asked", cargo.risk(Integer.MAX_VALUE, -2, 3, 2), 7);
-        CHECK.due("nothing of these asked", cargo.risk(8, Integer.MIN_VALUE, Integer.MAX_VALUE, 2), 7);
+        CHECK.due("nothing of these asked", cargo.risk(Integer.MAX_VALUE, -2, 3, 2), 0);
+        CHECK.due("nothing of these asked", cargo.risk(8, Integer.MIN_VALUE, Integer.MAX_VALUE, 2), 0);
         CHECK.due("there is none", new SoupCargo().risk(NONE, NONE, NONE, 2), NONE);
         for (int what : new int[] {-1, 3, Integer.MIN_VALUE, Integer.MAX_VALUE}) {
             CHECK.due("what " + what, cargo.risk(NONE, NONE, NONE, what), NONE);

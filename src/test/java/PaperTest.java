@@ -245,20 +245,7 @@ public final class PaperTest {
         }
         CHECK.due("the 201st", cargo.list(0, 0, 0, true), -1);
         for (int harbour = -1; harbour < 8; harbour++) {
-            for (int month = -1; month < 12; month++) {
-                for (int sort = -1; sort < 3; sort++) {
-                    int all = 0;
-                    int lost = 0;
-                    for (int n = 0; n < 200; n++) {
-                        boolean is = (harbour < 0 || n % 8 == harbour) && (month < 0 || n % 12 == month)
-                            && (sort < 0 || n % 3 == sort);
-                        all += is ? 1 : 0;
-                        lost += is && n % 5 == 0 ? 1 : 0;
-                    }
-                    CHECK.due("lost and 1", cargo.risk(harbour, month, sort, 0), lost + 1);
-                    CHECK.due("all and 2", cargo.risk(harbour, month, sort, 1), all + 2);
-                }
-            }
+            risksOf(harbour);
         }
         CHECK.due("risk of harbour 8", cargo.risk(8, -1, -1, 0), -1);
         CHECK.due("risk of harbour -2", cargo.risk(-2, -1, -1, 0), -1);
@@ -268,6 +255,27 @@ public final class PaperTest {
         CHECK.due("risk of sort -2", cargo.risk(-1, -1, -2, 1), -1);
         CHECK.due("risk of what 3", cargo.risk(-1, -1, -1, 3), -1);
         CHECK.due("risk of what -1", cargo.risk(-1, -1, -1, -1), -1);
+    }
+
+    private static void risksOf(int harbour) {
+        SoupCargo cargo = new SoupCargo();
+        for (int n = 0; n < 200; n++) {
+            cargo.list(n % 8, n % 12, n % 3, n % 5 == 0);
+        }
+        for (int month = -1; month < 12; month++) {
+            for (int sort = -1; sort < 3; sort++) {
+                int all = 0;
+                int lost = 0;
+                for (int n = 0; n < 200; n++) {
+                    boolean is = (harbour < 0 || n % 8 == harbour) && (month < 0 || n % 12 == month)
+                        && (sort < 0 || n % 3 == sort);
+                    all += is ? 1 : 0;
+                    lost += is && n % 5 == 0 ? 1 : 0;
+                }
+                CHECK.due("lost and 1", cargo.risk(harbour, month, sort, 0), lost + 1);
+                CHECK.due("all and 2", cargo.risk(harbour, month, sort, 1), all + 2);
+            }
+        }
     }
 
     private static void theWorstHarbour() {

@@ -14,6 +14,7 @@ public final class ShipEdgesTest {
         sailTwice();
         nothingInPort();
         shaken();
+        downInTheHolds();
         soupAboveNothing();
         leastLean();
         leanOfSixty();
@@ -28,9 +29,11 @@ public final class ShipEdgesTest {
         goneForEver();
         shipAnswers();
         splitEdges();
+        worstOfOneHold();
         portEdges();
         reachRefused();
         reachEdges();
+        reachLeadsAll();
         bestEdges();
         CHECK.close();
     }
@@ -202,6 +205,49 @@ public final class ShipEdgesTest {
         Scene.passTo(cargo, 719);
         CHECK.due("to the last hour", cargo.cell(0, 3, 0, 0, 3), 9 * 24 * 28 + 9 * 23);
         CHECK.due("she is there", cargo.ship(5), NONE);
+        for (int corner = 0; corner < 2; corner++) {
+            SoupCargo one = Scene.withLaws("soup shaken;");
+            for (int z = 0; z < 6; z++) {
+                Scene.put(one, 3 * corner, 5 * corner, 1, 0);
+            }
+            one.sky(0, 0, 1);
+            one.sail(0);
+            one.hours(1);
+            CHECK.due("the lowest CELL of the corner", one.cell(3 * corner, 5 * corner, 0, 0, 3), 1);
+            CHECK.due("the highest CELL of the corner", one.cell(3 * corner, 5 * corner, 0, 5, 3), 1);
+            CHECK.due("all of them are SOUP", one.ship(9), 6);
+        }
+    }
+
+    private static void downInTheHolds() {
+        CHECK.by("water goes down in the HOLDS likewise (of LAYER 0 into THE WELL)");
+        int[][] cases = {{-1, 0}, {0, 0}, {1, 1}, {50, 50}, {51, 50}};
+        for (int[] one : cases) {
+            SoupCargo cargo = Scene.withLaws("down " + (one[0] < 0 ? "0-1" : one[0]) + "; dry 9;");
+            Scene.put(cargo, 3, 2, 1, 50);
+            Scene.put(cargo, 3, 3, 1, 50);
+            cargo.sky(0, 9, 0);
+            cargo.sail(0);
+            cargo.hours(1);
+            CHECK.due("WATER with down " + one[0], cargo.cell(3, 2, 0, 0, 1), 50 - one[1]);
+            CHECK.due("THE WELL with down " + one[0], cargo.ship(6), 2 * one[1]);
+            CHECK.due("nothing goes OUT", cargo.ship(7), 0);
+        }
+        SoupCargo full = Scene.withLaws("down water;");
+        for (int z = 0; z < 6; z++) {
+            Scene.put(full, 0, 2, 1, 100 * (z + 1));
+            Scene.put(full, 1, 3, 1, 100 * (z + 1));
+        }
+        full.sail(0);
+        full.hours(1);
+        for (int z = 0; z < 6; z++) {
+            CHECK.due("all at once, LAYER " + z, full.cell(0, 2, 0, z, 1), z == 5 ? 0 : 100 * (z + 2));
+        }
+        CHECK.due("THE WELL", full.ship(6), 200);
+        full.hours(5);
+        CHECK.due("THE WELL after six HOURS", full.ship(6), 2 * 2100);
+        full.hours(1);
+        CHECK.due("no more than there was", full.ship(6), 2 * 2100);
     }
 
     private static void soupAboveNothing() {
@@ -496,6 +542,14 @@ public final class ShipEdgesTest {
         port.sail(0);
         port.hours(1);
         CHECK.due("to port, the second after the first", Scene.heights(port), "110000");
+        for (int side = -1; side <= 1; side += 2) {
+            SoupCargo little = Scene.loaded("soup 1;", 0, side < 0 ? 1 : 0, 0, 0, side < 0 ? 0 : 1, 0);
+            little.arm(1, 99);
+            little.sail(0);
+            little.hours(1);
+            CHECK.due("LEAN 1", little.ship(4), side);
+            CHECK.due("a LEAN of 1 is enough", Scene.heights(little), side < 0 ? "100000" : "000001");
+        }
         SoupCargo upright = Scene.loaded("soup 1;", 2, 0, 1, 1, 0, 2);
         upright.sail(0);
         upright.hours(3);
@@ -510,6 +564,27 @@ public final class ShipEdgesTest {
         lowest.hours(3);
         CHECK.due("nothing goes beyond the low side", Scene.heights(lowest), "000003");
         CHECK.due("nor into the next HOLD", lowest.cell(1, 0, 0, 0, 0), 0);
+        for (int hold = 0; hold < 4; hold++) {
+            flowInAHold(hold, 1, 99);
+            flowInAHold(hold, -1, 99);
+            flowInAHold(hold, 1, 20);
+            flowInAHold(hold, -1, 20);
+        }
+    }
+
+    /** A cell on the low side and one on the high side, by 1 degree or more. */
+    private static void flowInAHold(int hold, int side, int arm) {
+        int low = side > 0 ? 5 : 0;
+        SoupCargo cargo = Scene.withLaws("soup 1;");
+        Scene.put(cargo, hold, low, 20, 0);
+        Scene.put(cargo, hold, 5 - low, 11, 0);
+        cargo.arm(1, arm);
+        cargo.sail(0);
+        cargo.hours(1);
+        CHECK.due("LEAN", cargo.ship(4), arm == 99 ? side : 2 * side);
+        CHECK.due("it stays on the low side of HOLD " + hold, cargo.cell(hold, low, 0, 0, 0), 20);
+        CHECK.due("it has left the high side of HOLD " + hold, cargo.cell(hold, 5 - low, 0, 0, 0), 0);
+        CHECK.due("it is a COLUMN farther in HOLD " + hold, cargo.cell(hold, 5 - low + side, 0, 0, 0), 11);
     }
 
     private static void layerLeft() {
@@ -630,6 +705,19 @@ public final class ShipEdgesTest {
         }
     }
 
+    private static void worstOfOneHold() {
+        CHECK.by("WORST of n CELLS in a HOLD: the sum of ARMS of n CELLS that fill COLUMNS from the starboard side on (6 each)");
+        SoupCargo cargo = new SoupCargo();
+        int worst = 0;
+        for (int n = 1; n <= 36; n++) {
+            worst += 5 - (n - 1) / 6 * 2;
+            // all in one HOLD is never worse than to part them
+            CHECK.due("WORST of " + n, cargo.split(n, 0), worst);
+            CHECK.due("all in the last HOLD", cargo.split(n, 4), n);
+        }
+        CHECK.due("WORST of a full HOLD", worst, 0);
+    }
+
     private static void portEdges() {
         CHECK.by("PORTS 0 .. 5 as they come are HOURS 1 .. 400 away.");
         SoupCargo cargo = new SoupCargo();
@@ -719,6 +807,61 @@ public final class ShipEdgesTest {
         CHECK.due("she is there till then", cargo.ship(5), NONE);
         cargo.hours(1);
         CHECK.due("GONE as it was told", cargo.ship(5), gone);
+    }
+
+    /** A ship that is GONE in an HOUR that hangs on one thing alone; a port that far is reached, the next is not. */
+    private static void goneBy(String what, Consumer<SoupCargo> past, int gone) {
+        SoupCargo cargo = new SoupCargo();
+        past.accept(cargo);
+        int away = gone - cargo.ship(0);
+        cargo.port(away);
+        cargo.port(away + 1);
+        CHECK.due("reached ahead of it: " + what, cargo.reach(0), 1);
+        CHECK.due("not reached: " + what, cargo.reach(1), 0);
+        CHECK.due("once more, the same: " + what, cargo.reach(0), 1);
+        Scene.passTo(cargo, gone + 1);
+        CHECK.due("GONE: " + what, cargo.ship(5), gone);
+    }
+
+    private static void reachLeadsAll() {
+        CHECK.by("all led as in 2. (STATE, SWELL as they are).");
+        goneBy("by the CLOCK", cargo -> {
+            oneCell(cargo, "soup 1 when clock=7;", 0);
+            cargo.hours(8);
+            cargo.sail(0);
+            cargo.hours(2);
+        }, 32);
+        goneBy("by the RAIN of a DAY", cargo -> {
+            oneCell(cargo, "soup rain;", 0);
+            cargo.sky(2, 1, 0);
+            cargo.sail(0);
+            cargo.hours(3);
+        }, 49);
+        goneBy("by how she has been SHAKEN", cargo -> {
+            oneCell(cargo, "soup shaken-19;", 0);
+            cargo.sky(0, 0, 1);
+            cargo.sail(0);
+            cargo.hours(15);
+        }, 20);
+        goneBy("by the WATER", cargo -> {
+            oneCell(cargo, "down 1; soup 1 when water=30;", 50);
+            cargo.sail(0);
+            cargo.hours(6);
+        }, 20);
+        goneBy("by her ARMS", cargo -> {
+            oneCell(cargo, "soup 1 when clock=7;", 0);
+            cargo.arm(1, 10);
+            cargo.arm(7, 12);
+            cargo.sail(0);
+            cargo.hours(2);
+        }, 8);
+    }
+
+    /** 50 tons, with which she leans 6 or 7 degrees; once they have flowed to starboard 10 or more, beyond LIMIT. */
+    private static void oneCell(SoupCargo cargo, String laws, int water) {
+        Check.laws(cargo, laws);
+        Scene.put(cargo, 0, 4, 50, water);
+        cargo.arm(7, 9);
     }
 
     private static void bestEdges() {

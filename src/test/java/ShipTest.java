@@ -369,10 +369,11 @@ public final class ShipTest {
         }
         Model model = new Model();
         for (int cells = 0; cells <= 144; cells++) {
+            SoupCargo other = new SoupCargo();
             int sum = 0;
             for (int what = 0; what < 5; what++) {
-                CHECK.due("split " + cells + " " + what, cargo.split(cells, what), model.split(cells, what));
-                sum += what > 0 ? cargo.split(cells, what) : 0;
+                CHECK.due("split " + cells + " " + what, other.split(cells, what), model.split(cells, what));
+                sum += what > 0 ? other.split(cells, what) : 0;
             }
             CHECK.due("all cells of " + cells, sum, cells);
         }

@@ -7,6 +7,7 @@ public final class TextEdgesTest {
         fedBytes();
         fullTape();
         cutTape();
+        textsOfAFullTape();
         emptyTexts();
         lawsRead();
         codeRead();
@@ -16,6 +17,7 @@ public final class TextEdgesTest {
         blanksAndSigns();
         wrapping();
         dividing();
+        comparing();
         firstFault();
         leastFault();
         faultAtTheEnd();
@@ -74,6 +76,10 @@ public final class TextEdgesTest {
         Check.feed(words, "dry 1; dry 2; dry 3;");
         CHECK.yes("end(13)", words.end(13));
         CHECK.due("two lines are left", words.laws(), 2);
+        // what was cut off is not there any more, not even within a word or a number
+        cutInto("dry 12345;", 8, 8);
+        cutInto("dry 1; dryer", 10, 10);
+        cutInto("dry 1 when 1=1;", 5, 5);
         CHECK.by("false, changing nothing, if it has not so many, or n is below 0.");
         for (int n : new int[] {8, 21, 600, 601, Integer.MAX_VALUE, -1, Integer.MIN_VALUE}) {
             SoupCargo cargo = new SoupCargo();
@@ -86,6 +92,37 @@ public final class TextEdgesTest {
         CHECK.no("end(1) of none", empty.end(1));
         CHECK.no("end(-1) of none", empty.end(-1));
         CHECK.yes("end(0) of none", empty.end(0));
+    }
+
+    private static void cutInto(String text, int length, int place) {
+        SoupCargo cargo = new SoupCargo();
+        Check.feed(cargo, text);
+        cargo.end(length);
+        CHECK.due("laws of the first " + length + " of " + text, cargo.laws(), NONE);
+        CHECK.due("the FAULT is at the end", cargo.fault(0), 1);
+        CHECK.due("the end", cargo.fault(1), place);
+    }
+
+    private static void textsOfAFullTape() {
+        CHECK.by("NONE, and nothing comes, if there would be more than 600.");
+        SoupCargo cargo = new SoupCargo();
+        cargo.heap(0, 0, 0, 1, 0);
+        // as many tokens as can be, again and again
+        for (int n = 0; n < 6; n++) {
+            String units = "+" + n;
+            CHECK.due("a LAW of 600 bytes", Check.laws(cargo, "sweat 1" + units.repeat(296) + ";"), 1);
+            CHECK.due("what it comes to", cargo.told(3, NONE, 0, 0, 0), 1 + 296 * n);
+        }
+        CHECK.lawFault(";".repeat(600), 1, 0);
+        CHECK.codeFault("(".repeat(600), 1, 0);
+        CHECK.lawFault("x".repeat(600), 1, 0);
+        CHECK.lawFault("9".repeat(600), 1, 0);
+        CHECK.lawFault("dry 1;" + " ".repeat(592) + "dr", 1, 598);
+        CHECK.lawFault("dry 1;" + " ".repeat(591) + "dry", 1, 600);
+        CHECK.lawFault("dry " + " ".repeat(592) + "1234", 1, 600);
+        CHECK.lawFault("dry " + " ".repeat(591) + "12345", 1, 595);
+        CHECK.due("blanks to the end", Check.laws(cargo, "dry 1;" + "\n".repeat(594)), 1);
+        CHECK.due("a ; as the last", Check.laws(cargo, " ".repeat(594) + "dry 1;"), 1);
     }
 
     private static void emptyTexts() {
@@ -204,7 +241,13 @@ public final class TextEdgesTest {
                 CHECK.lawFault("dry " + word + ";", 1, 4);
             }
         }
-        CHECK.codeFault("load 0 when load=1;", 1, 12);
+        for (String word : "down dry soup sweat when or and not".split(" ")) {
+            CHECK.lawFault("dry " + word + ";", 1, 4);
+            CHECK.lawFault("dry 1 when 1=" + word + ";", 1, 13);
+        }
+        for (String word : "load stop test when or and not".split(" ")) {
+            CHECK.codeFault("load 0 when 1=" + word + ";", 1, 14);
+        }
         for (String joined : new String[] {"downdry 1;", "dryz 1;", "dryA 1;", "dryZ 1;", "adry 1;"}) {
             CHECK.lawFault(joined, 1, 0);
         }
@@ -289,6 +332,40 @@ public final class TextEdgesTest {
         worth("9999*9999*22/9999/9999/22", 0);
         worth("0-7/2", -3);
         worth("100/7/3*5/4", 5);
+    }
+
+    private static void isSo(String b, boolean due) {
+        SoupCargo cargo = Scene.withLaws("sweat 1 when " + b + ";");
+        cargo.heap(0, 0, 0, 1, 0);
+        CHECK.due("whether " + b, cargo.told(3, NONE, 0, 0, 0), due ? 1 : 0);
+    }
+
+    private static void comparing() {
+        CHECK.by("C = E (< | = | >) E | not C | ( B ).");
+        String most = "8192*4*8192*4*2-1";
+        String least = "8192*4*8192*4*2";
+        String[] numbers = {least, "0-1", "0", "1", most};
+        for (int i = 0; i < numbers.length; i++) {
+            for (int k = 0; k < numbers.length; k++) {
+                isSo(numbers[i] + "<" + numbers[k], i < k);
+                isSo(numbers[i] + "=" + numbers[k], i == k);
+                isSo(numbers[i] + ">" + numbers[k], i > k);
+            }
+        }
+        for (String so : new String[] {"1<2", "2=2", "2>1"}) {
+            isSo("not " + so, false);
+            isSo("not not " + so, true);
+            isSo("(" + so + ")", true);
+            isSo("1=1 and " + so, true);
+            isSo(so + " and 1=1", true);
+            isSo("1=2 or " + so, true);
+            isSo(so + " or 1=2", true);
+            isSo("not " + so + " or 1=2", false);
+            isSo("1=2 or 1=1 and " + so, true);
+            isSo("1=2 and " + so + " or 1=2", false);
+            isSo(so + " or 1=2 and 1=2", true);
+            isSo("(" + so + " or 1=2) and 1=2", false);
+        }
     }
 
     private static void firstFault() {

@@ -101,7 +101,6 @@ final class Twins {
     }
 
     private static void tape(SoupCargo cargo, List<Integer> seen, boolean asLaws) {
-        seen.add(cargo.end(600) ? 1 : 0);
         seen.add(Scene.feedBlanks(cargo));
         seen.add(asLaws ? cargo.laws() : cargo.code());
         seen.add(cargo.fault(0));
