@@ -217,21 +217,19 @@ public final class SoupCargo {
         if (!within(cells, HOLDS * HOLD_CELLS + 1) || !within(what, HOLDS + 1)) {
             return NONE;
         }
-        int least = Integer.MAX_VALUE;
+        // no cell's arm is above 5, so every way comes to less than this
+        int least = 5 * cells + 1;
         int ways = 0;
         for (int first = 0; first <= HOLD_CELLS; first++) {
             for (int second = 0; second <= HOLD_CELLS; second++) {
                 int both = worstOf(first) + worstOf(second);
                 int left = cells - first - second;
-                for (int third = 0; third <= HOLD_CELLS && both < least; third++) {
-                    int fourth = left - third;
-                    if (!within(fourth, HOLD_CELLS + 1)) {
-                        continue;
-                    }
-                    int worst = both + worstOf(third) + worstOf(fourth);
+                int third = Math.max(0, left - HOLD_CELLS);
+                for (; third <= left && third <= HOLD_CELLS && both < least; third++) {
+                    int worst = both + worstOf(third) + worstOf(left - third);
                     if (worst < least) {
                         least = worst;
-                        ways = ((first * 64 + second) * 64 + third) * 64 + fourth;
+                        ways = ((first * 64 + second) * 64 + third) * 64 + left - third;
                     }
                 }
             }

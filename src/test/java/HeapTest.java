@@ -19,6 +19,7 @@ public final class HeapTest {
     }
 
     private static void newObject() {
+        CHECK.by("`SoupCargo()`: HOUR 0, in port, nothing there.");
         SoupCargo cargo = new SoupCargo();
         CHECK.due("NONE", SoupCargo.NONE, -1);
         int[] due = {0, 0, 0, 2000, 0, -1, 0, 0, 0, 0, 0, BEYOND};
@@ -35,6 +36,7 @@ public final class HeapTest {
     }
 
     private static void sortAndSky() {
+        CHECK.by("SORT: true; false if it can't be.");
         SoupCargo cargo = new SoupCargo();
         CHECK.yes("sort(2)", cargo.sort(2));
         CHECK.no("sort(3)", cargo.sort(3));
@@ -42,6 +44,7 @@ public final class HeapTest {
         CHECK.due("ship(10)", cargo.ship(10), 2);
         Check.laws(cargo, "sweat 100*sort+rain;");
         cargo.heap(0, 0, 0, 1, 0);
+        CHECK.by("RAIN and SWELL of a DAY: true; false, and nothing is done, if one can't be.");
         CHECK.yes("sky(0, 9, 9)", cargo.sky(0, 9, 9));
         CHECK.yes("sky(29, 0, 0)", cargo.sky(29, 0, 0));
         CHECK.no("sky(0, 10, 0)", cargo.sky(0, 10, 0));
@@ -56,6 +59,7 @@ public final class HeapTest {
     }
 
     private static void heapCells() {
+        CHECK.by("ORE and WATER of a CELL of THE HEAP: true; false, and nothing is done, if one can't be");
         SoupCargo cargo = new SoupCargo();
         CHECK.yes("heap at the edge", cargo.heap(7, 7, 0, 99, 9999));
         CHECK.no("ore 100", cargo.heap(7, 7, 1, 100, 0));
@@ -82,6 +86,7 @@ public final class HeapTest {
     }
 
     private static void cellAnswers() {
+        CHECK.by("what 0 ORE, 1 WATER, 2 WET, 3 SHAKEN, 4 1 if SOUP, else 0. NONE if one can't be, or another what.");
         SoupCargo cargo = new SoupCargo();
         cargo.heap(2, 3, 0, 10, 59);
         int[] due = {10, 59, 5, 0, 0, -1};
@@ -102,6 +107,7 @@ public final class HeapTest {
     }
 
     private static void hoursAndTheirEdges() {
+        CHECK.by("NOW is one more in the end.");
         SoupCargo cargo = new SoupCargo();
         CHECK.due("hours(0)", cargo.hours(0), -1);
         CHECK.due("hours(-1)", cargo.hours(-1), -1);
@@ -119,6 +125,8 @@ public final class HeapTest {
     }
 
     private static void rainThenDry() {
+        CHECK.by("AN HOUR goes by. THE HEAP: of each COLUMN that has ORE the TOP's WATER is RAIN of the DAY more, then"
+            + " less by its LAW dry");
         SoupCargo cargo = new SoupCargo();
         Check.laws(cargo, "dry water/2 when layer=1; dry 100;");
         cargo.heap(0, 0, 0, 10, 40);
@@ -135,6 +143,8 @@ public final class HeapTest {
     }
 
     private static void waterGoesDownAllAtOnce() {
+        CHECK.by("Then all at once each CELL with ORE gives its LAW down (0 .. WATER) to the one below it, of LAYER 0"
+            + " OUT.");
         SoupCargo cargo = new SoupCargo();
         Check.laws(cargo, "down water;");
         for (int z = 0; z < 4; z++) {
@@ -150,6 +160,7 @@ public final class HeapTest {
     }
 
     private static void whatIsTooMuchGoesOut() {
+        CHECK.by("what would be more goes OUT, or into THE WELL)");
         SoupCargo cargo = new SoupCargo();
         Check.laws(cargo, "down 30 when layer=1; dry water-9990 when water>9990; down 10 when water = 9000;");
         cargo.heap(0, 0, 0, 1, 9999);
@@ -162,6 +173,7 @@ public final class HeapTest {
     }
 
     private static void lawsAreHeldToTheWater() {
+        CHECK.by("(0 .. WATER; what is less or more counts as these)");
         SoupCargo cargo = new SoupCargo();
         Check.laws(cargo, "down 0-5 when sort=0; down 9999; dry 0-7 when sort=0; dry 9999 when sort=2;");
         cargo.heap(0, 0, 0, 1, 50);
@@ -181,6 +193,8 @@ public final class HeapTest {
     }
 
     private static void sunByHalves() {
+        CHECK.by("lit (1 for a TOP of THE HEAP with x up to 3 at a CLOCK 6 .. 11, with x from 4 on at 12 .. 17, else"
+            + " 0)");
         for (int hour = 0; hour < 48; hour++) {
             SoupCargo cargo = Scene.withLaws("sweat lit*100+clock;");
             for (int x = 0; x < 8; x++) {
@@ -200,6 +214,8 @@ public final class HeapTest {
     }
 
     private static void toldValues() {
+        CHECK.by("What the LAW down (0), dry (1), soup (2) or sweat (3) of a CELL (told as for cell()) comes to NOW; 0"
+            + " without ORE; NONE - 999999 if one can't be.");
         SoupCargo cargo = new SoupCargo();
         Check.laws(cargo, "down 1 when wet>5; down 2 when water>8; dry ore; soup layer; sweat shaken;");
         cargo.heap(0, 0, 0, 3, 18);

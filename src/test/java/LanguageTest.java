@@ -15,13 +15,8 @@ import java.util.stream.Collectors;
 /** The face of the document, and those rules of LANGUAGE.md that a look at the words of the source can tell. */
 public final class LanguageTest {
     private static final Check CHECK = new Check("LanguageTest");
-    private static final String FACE = "sort(int):boolean sky(int,int,int):boolean heap(int,int,int,int,int):boolean"
-        + " cell(int,int,int,int,int):int feed(int,int,int,int,int):int end(int):boolean laws():int code():int"
-        + " fault(int):int hours(int):int load(int,int,int,int):boolean arm(int,int):boolean sail(int):boolean"
-        + " ship(int):int arms(int):int told(int,int,int,int,int):int split(int,int):int can(int,int,int):int"
-        + " step(int):boolean span(int,int,int,int,int):int mean(int,int):int paper(int):boolean"
-        + " place(int,int,int,int):boolean fair(int):int may(int,int):int let(int,int):int port(int):int"
-        + " reach(int):int list(int,int,int,boolean):int risk(int,int,int,int):int";
+    private static final Set<String> LIBRARY =
+        Set.of("Math.max", "Math.min", "Math.abs", "Integer.bitCount", "System.arraycopy");
 
     public static void main(String[] args) throws IOException {
         face();
@@ -35,6 +30,17 @@ public final class LanguageTest {
         return method.getName() + "(" + types + "):" + method.getReturnType().getName();
     }
 
+    private static Set<String> faceOfTheDocument() {
+        Set<String> face = new TreeSet<>();
+        Matcher told = Pattern.compile("(?m)^    public (\\w+) (\\w+)\\((.*)\\);$").matcher(Check.DOCUMENT);
+        while (told.find()) {
+            String types = told.group(3).replaceAll(" \\w+(, )?", ",").replaceAll(",$", "");
+            face.add(told.group(2) + "(" + types + "):" + told.group(1));
+        }
+        CHECK.due("calls in the document", face.size(), 30);
+        return face;
+    }
+
     private static void face() {
         CHECK.yes("final", Modifier.isFinal(SoupCargo.class.getModifiers()));
         Set<String> open = new TreeSet<>();
@@ -46,8 +52,7 @@ public final class LanguageTest {
                 CHECK.yes("public " + method, Modifier.isPublic(method.getModifiers()));
             }
         }
-        Set<String> due = new TreeSet<>(Arrays.asList(FACE.split(" ")));
-        CHECK.yes("the face is " + open, open.equals(due));
+        CHECK.due("the face", open.toString(), faceOfTheDocument().toString());
         Constructor<?>[] constructors = SoupCargo.class.getDeclaredConstructors();
         CHECK.due("constructors", constructors.length, 1);
         CHECK.yes("public constructor", Modifier.isPublic(constructors[0].getModifiers()));
@@ -87,6 +92,10 @@ public final class LanguageTest {
         }
         for (String sign : new String[] {"->", "::", "\"\" +", "+ \"\""}) {
             CHECK.no("the sign " + sign, bare.contains(sign));
+        }
+        Matcher library = Pattern.compile("\\b(?:Integer|Long|Math|System|Arrays|String|StringBuilder|List)\\.\\w+").matcher(bare);
+        while (library.find()) {
+            CHECK.yes("in the library of rule 4: " + library.group(), LIBRARY.contains(library.group()));
         }
         CHECK.yes("plain signs alone", source.chars().allMatch(c -> c == '\n' || c >= 32 && c < 127));
         Matcher method = Pattern.compile("(?m)^( +)(?:private |public |static |final )*[\\w\\[\\]]+ \\w+\\([^;=]*\\) \\{\n")

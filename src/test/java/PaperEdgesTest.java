@@ -349,7 +349,7 @@ public final class PaperEdgesTest {
     }
 
     private static void codeAtFirst() {
-        CHECK.by("said (THE PAPER's number, 0 without), can (WET of the last CAN, 0 without)");
+        CHECK.by("THE CODE on NOW: said (THE PAPER's number, 0 without), can (WET of the last CAN, 0 without)");
         SoupCargo cargo = Scene.withCode("load 0 when said=0; load 1 when can=0; load 2 when can=9999; load 3 when can=4;");
         CHECK.due("said without a PAPER", cargo.may(0, 0), 1);
         CHECK.due("can without a CAN", cargo.may(1, 0), 1);
@@ -383,7 +383,7 @@ public final class PaperEdgesTest {
     }
 
     private static void nowOfTheCode() {
-        CHECK.by("loaded (CELLS in HOLDS with ORE), swell, port (1 in port, else 0)");
+        CHECK.by("rain, day, loaded (CELLS in HOLDS with ORE), swell, port (1 in port, else 0)");
         SoupCargo cargo = Scene.withCode("load 0 when loaded=0; load 1 when loaded=144; load 2 when port=1; load 3 when port=0;");
         CHECK.due("nothing loaded", cargo.may(0, 0), 1);
         for (int n = 0; n < 144; n++) {
@@ -400,6 +400,16 @@ public final class PaperEdgesTest {
         gone.end(0);
         Check.code(gone, "load 0 when port=0 and loaded=8;");
         CHECK.due("GONE she is not in port", gone.may(0, 0), 1);
+        SoupCargo days = Scene.withCode("load 0 when rain=9; load 1 when swell=8; load 2 when day=1; load 3 when rain=swell;");
+        days.sky(1, 9, 8);
+        for (int hour : new int[] {23, 24, 47, 48}) {
+            Scene.passTo(days, hour);
+            int dayOne = hour / 24 == 1 ? 1 : 0;
+            CHECK.due("rain at " + hour, days.may(0, 0), dayOne);
+            CHECK.due("swell at " + hour, days.may(1, 0), dayOne);
+            CHECK.due("day at " + hour, days.may(2, 0), dayOne);
+            CHECK.due("neither rain nor swell at " + hour, days.may(3, 0), 1 - dayOne);
+        }
     }
 
     private static void mayEdges() {

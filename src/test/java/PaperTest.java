@@ -16,6 +16,7 @@ public final class PaperTest {
     }
 
     private static void cans() {
+        CHECK.by("A CAN: its number; NONE if there is no ORE, one can't be, or there are 60.");
         SoupCargo cargo = new SoupCargo();
         cargo.heap(0, 0, 0, 2, 9);
         CHECK.due("no ore", cargo.can(0, 0, 1), -1);
@@ -30,6 +31,8 @@ public final class PaperTest {
     }
 
     private static void spans() {
+        CHECK.by("A SPAN for a CELL as of CANS up to an HOUR: between the greatest of (a CAN's WET less STEP times its"
+            + " distance) and the least of (WET and STEP times distance)");
         SoupCargo cargo = new SoupCargo();
         CHECK.no("step(21)", cargo.step(21));
         CHECK.no("step(-1)", cargo.step(-1));
@@ -62,6 +65,7 @@ public final class PaperTest {
     }
 
     private static void means() {
+        CHECK.by("THE MEAN as of CANS up to an HOUR: what 0 the least, 1 the greatest");
         SoupCargo cargo = new SoupCargo();
         CHECK.due("no ore", cargo.mean(0, 0), -1);
         cargo.paper(5);
@@ -94,6 +98,7 @@ public final class PaperTest {
     }
 
     private static void couldBeSo() {
+        CHECK.by("2 1 if THE PAPER COULD be so, else 0.");
         SoupCargo cargo = new SoupCargo();
         cargo.heap(0, 0, 0, 1, 20);
         cargo.heap(1, 0, 0, 1, 20);
@@ -113,6 +118,7 @@ public final class PaperTest {
     }
 
     private static void fairSets() {
+        CHECK.by("FAIR: PLACES 0 .. 7 (CELLS) are told.");
         SoupCargo cargo = new SoupCargo();
         CHECK.due("no ore, no place", cargo.fair(0), 0);
         CHECK.due("r 21", cargo.fair(21), -1);
@@ -146,6 +152,7 @@ public final class PaperTest {
     }
 
     private static void mayByNow() {
+        CHECK.by("THE CODE on NOW for a PERSON: what 0 MAY load, 1 MAY stop, 2 MUST test: 1 or 0.");
         SoupCargo cargo = new SoupCargo();
         CHECK.due("no code", cargo.may(0, 0), 0);
         CHECK.due("person 4", cargo.may(4, 0), -1);
@@ -186,6 +193,8 @@ public final class PaperTest {
     }
 
     private static void waysThroughTheCode() {
+        CHECK.by("LET for w 0 .. 20: what 0 how many, 1 the first (said, can, age, rain as 1000000 said + 10000 can +"
+            + " 100 age + rain).");
         SoupCargo cargo = new SoupCargo();
         CHECK.due("nobody", cargo.let(0, 0), 0);
         CHECK.due("no first", cargo.let(0, 1), -1);
@@ -231,6 +240,7 @@ public final class PaperTest {
     }
 
     private static void theList() {
+        CHECK.by("A SHIP on the LIST: how many; NONE if one can't be, or there are 200.");
         SoupCargo cargo = new SoupCargo();
         CHECK.due("harbour 8", cargo.list(8, 0, 0, true), -1);
         CHECK.due("harbour -1", cargo.list(-1, 0, 0, true), -1);
@@ -244,6 +254,7 @@ public final class PaperTest {
             CHECK.due("list " + n, cargo.list(n % 8, n % 12, n % 3, n % 5 == 0), n + 1);
         }
         CHECK.due("the 201st", cargo.list(0, 0, 0, true), -1);
+        CHECK.by("RISK (harbour, month, sort: NONE not told): what 0 LOST and 1, 1 all and 2;");
         for (int harbour = -1; harbour < 8; harbour++) {
             risksOf(harbour);
         }
@@ -279,6 +290,7 @@ public final class PaperTest {
     }
 
     private static void theWorstHarbour() {
+        CHECK.by("WORST HARBOUR: that with SHIPS whose RISK is the greatest; of several the least number.");
         SoupCargo cargo = new SoupCargo();
         cargo.list(5, 0, 0, false);
         CHECK.due("the only one", cargo.risk(-1, -1, -1, 2), 5);

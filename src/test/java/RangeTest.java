@@ -1,5 +1,3 @@
-import java.lang.reflect.InvocationTargetException;
-import java.lang.reflect.Method;
 import java.util.Arrays;
 import java.util.function.Consumer;
 
@@ -41,7 +39,7 @@ public final class RangeTest {
         call("heap", 0, args(0, 7, 3, 99, 9999), range(0, 7), range(0, 7), range(0, 3), range(1, 99), range(0, 9999));
         call("heap", 0, args(7, 0, 0, 1, 0), range(0, 7), range(0, 7), range(0, 3), range(1, 99), range(0, 9999));
         call("heap", 0, args(7, 7, 3, 0, 0), range(0, 7), range(0, 7), ANY, range(0, 99), range(0, 0));
-        CHECK.by("NONE if one can't be, or another what.\n\n## Promise 6");
+        CHECK.by("3 SHAKEN, 4 1 if SOUP, else 0. NONE if one can't be, or another what.");
         call("cell", NONE, args(NONE, 5, 5, 3, 4), range(NONE, 3), range(0, 7), range(0, 7), range(0, 3), range(0, 4));
         call("cell", NONE, args(0, 5, 0, 5, 0), range(0, 3), range(0, 5), ANY, range(0, 5), range(0, 4));
         call("cell", NONE, args(3, 0, -5, 0, 3), range(0, 3), range(0, 5), ANY, range(0, 5), range(0, 4));
@@ -172,7 +170,7 @@ public final class RangeTest {
     private static void isTaken(String name, int refusal, int[] args) {
         SoupCargo cargo = new SoupCargo();
         Scene.inPort(cargo);
-        CHECK.no("whether it is refused: " + name + Arrays.toString(args), answer(cargo, name, args) == refusal);
+        CHECK.no("whether it is refused: " + name + Arrays.toString(args), Calls.answer(cargo, name, args) == refusal);
     }
 
     /** Each of these calls is refused, and does nothing. */
@@ -180,32 +178,9 @@ public final class RangeTest {
         for (int[] args : calls) {
             SoupCargo cargo = new SoupCargo();
             past.accept(cargo);
-            CHECK.due(name + Arrays.toString(args), answer(cargo, name, args), refusal);
+            CHECK.due(name + Arrays.toString(args), Calls.answer(cargo, name, args), refusal);
             CHECK.due("the view that tells that " + name + Arrays.toString(args) + " did something",
-                Twins.toldApart(past, twin -> answer(twin, name, args)), -1);
-        }
-    }
-
-    private static int answer(SoupCargo cargo, String name, int[] args) {
-        for (Method method : SoupCargo.class.getMethods()) {
-            if (method.getName().equals(name)) {
-                return answer(cargo, method, args);
-            }
-        }
-        throw new IllegalArgumentException(name);
-    }
-
-    private static int answer(SoupCargo cargo, Method method, int[] args) {
-        Class<?>[] types = method.getParameterTypes();
-        Object[] values = new Object[args.length];
-        for (int i = 0; i < args.length; i++) {
-            values[i] = types[i] == boolean.class ? (Object) (args[i] == 1) : (Object) args[i];
-        }
-        try {
-            Object answer = method.invoke(cargo, values);
-            return answer instanceof Boolean ? ((Boolean) answer ? 1 : 0) : (Integer) answer;
-        } catch (IllegalAccessException | InvocationTargetException e) {
-            throw new IllegalStateException(method.getName() + Arrays.toString(args), e);
+                Twins.toldApart(past, twin -> Calls.answer(twin, name, args)), -1);
         }
     }
 }

@@ -533,7 +533,8 @@ public final class ShipEdgesTest {
     }
 
     private static void flowSides() {
-        CHECK.by("COLUMN by COLUMN from the low side on (starboard, if LEAN is to starboard, else port; not if LEAN is 0)");
+        CHECK.by("Then SOUP flows: in each HOLD, COLUMN by COLUMN from the low side on (starboard, if LEAN is to starboard, else"
+            + " port; not if LEAN is 0)");
         SoupCargo starboard = Scene.loaded("soup 1;", 0, 0, 0, 1, 1, 0);
         starboard.sail(0);
         starboard.hours(1);

@@ -4,6 +4,7 @@ public final class ShipTest {
 
     public static void main(String[] args) {
         loading();
+        momentAndWeight();
         armsAndLimit();
         sailing();
         nothingInPort();
@@ -18,8 +19,10 @@ public final class ShipTest {
         flowToAFullColumn();
         flowCarriesAll();
         splits();
+        splitsByTheLong();
         ports();
         reachTriesAlone();
+        whatTheShipAnswers();
         CHECK.close();
     }
 
@@ -28,6 +31,7 @@ public final class ShipTest {
     }
 
     private static void loading() {
+        CHECK.by("LOADED: true; false, and nothing is done, if one can't be");
         SoupCargo cargo = new SoupCargo();
         cargo.heap(1, 2, 0, 10, 5);
         cargo.heap(1, 2, 1, 20, 6);
@@ -65,12 +69,34 @@ public final class ShipTest {
         }
     }
 
+    private static void momentAndWeight() {
+        CHECK.by("MOMENT is the sum of (10 ORE + WATER) times ARM of all CELLS in HOLDS, WEIGHT the sum of 10 ORE + WATER, and"
+            + " 2000 more.");
+        SoupCargo cargo = new SoupCargo();
+        int moment = 0;
+        int weight = 2000;
+        for (int n = 0; n < 100; n++) {
+            int column = n * n % 6;
+            int ore = 1 + n * 37 % 99;
+            int water = n * 613 % 10000;
+            if (cargo.cell(n % 4, column, 0, 5, 0) == 0) {
+                Scene.put(cargo, n % 4, column, ore, water);
+                moment += (10 * ore + water) * (2 * column - 5);
+                weight += 10 * ore + water;
+            }
+            CHECK.due("MOMENT with cell " + n, cargo.ship(2), moment);
+            CHECK.due("WEIGHT with cell " + n, cargo.ship(3), weight);
+        }
+    }
+
     private static void armsAndLimit() {
+        CHECK.by("Her ARM at 10 k degrees (k 0 .. 6; 7: LIMIT): true; false if one can't be.");
         SoupCargo cargo = new SoupCargo();
         int[] first = {0, 20, 40, 50, 40, 20, 0};
         for (int k = 0; k < 7; k++) {
             CHECK.due("arms at first", cargo.arms(10 * k), 10 * first[k]);
         }
+        CHECK.by("Her ARMS at 0, 10, .. 60 degrees are told, 0 .. 99 each");
         CHECK.no("k 8", cargo.arm(8, 0));
         CHECK.no("k -1", cargo.arm(-1, 0));
         CHECK.no("v 100", cargo.arm(0, 100));
@@ -91,6 +117,7 @@ public final class ShipTest {
     }
 
     private static void sailing() {
+        CHECK.by("She goes to SEA with a STATE: true; false if she is there.");
         SoupCargo cargo = new SoupCargo();
         CHECK.due("in port", cargo.ship(1), 0);
         CHECK.yes("sail", cargo.sail(-5));
@@ -102,6 +129,7 @@ public final class ShipTest {
     }
 
     private static void nothingInPort() {
+        CHECK.by("(In port nothing of this.)");
         SoupCargo cargo = Scene.loaded("down 1; soup 1;", 0, 0, 0, 0, 1, 0);
         cargo.heap(7, 7, 0, 10, 20);
         cargo.load(7, 7, 0, 4);
@@ -116,6 +144,8 @@ public final class ShipTest {
     }
 
     private static void shakenAndWell() {
+        CHECK.by("THE SHIP, if she is at SEA: each CELL with ORE is SHAKEN by SWELL more (9999 at most); water goes"
+            + " down in the HOLDS likewise (of LAYER 0 into THE WELL)");
         SoupCargo cargo = new SoupCargo();
         Check.laws(cargo, "down shaken; sweat shaken;");
         Scene.put(cargo, 2, 0, 10, 100);
@@ -149,6 +179,7 @@ public final class ShipTest {
     }
 
     private static void soupAndItsEnd() {
+        CHECK.by("then a CELL with ORE is SOUP, if its LAW soup is above 0.");
         SoupCargo cargo = Scene.loaded("soup 1 when clock=0; soup 0-1;", 0, 0, 0, 0, 0, 2);
         cargo.sail(0);
         cargo.hours(1);
@@ -165,6 +196,7 @@ public final class ShipTest {
     }
 
     private static void leanToBothSides() {
+        CHECK.by("At SEA then she LEANS:");
         for (int side = -1; side <= 1; side += 2) {
             SoupCargo cargo = new SoupCargo();
             // 500 of 2500 at arm 1: 20 * 500 = 10000 is an arm of 4, at 2 degrees
@@ -187,6 +219,7 @@ public final class ShipTest {
     }
 
     private static void goneByLean() {
+        CHECK.by("if there is none she is GONE (LEAN is 61 then, -61 if MOMENT is below 0).");
         for (int side = -1; side <= 1; side += 2) {
             SoupCargo cargo = new SoupCargo();
             Check.laws(cargo, "soup 1; down 1;");
@@ -219,6 +252,7 @@ public final class ShipTest {
     }
 
     private static void goneByRoll() {
+        CHECK.by("if LEAN and that together are above LIMIT (0 .. 90, 60 at first), she is GONE too.");
         SoupCargo cargo = Scene.loaded("soup 1;", 0, 0, 0, 0, 1, 0);
         Scene.put(cargo, 0, 4, 90, 0);
         cargo.sail(0);
@@ -248,6 +282,7 @@ public final class ShipTest {
 
     /** A roll of 27 from 33 degrees is not above 60; from 34 it is. */
     private static void limitAtFirst() {
+        CHECK.by("LIMIT (0 .. 90, 60 at first)");
         int state = Scene.stateBefore(3);
         for (int degree = 33; degree <= 34; degree++) {
             SoupCargo cargo = Scene.loaded("", 0, 0, 0, 0, 0, 1);
@@ -266,6 +301,8 @@ public final class ShipTest {
 
     /** With nothing loaded she is gone in the first hour whose roll is above LIMIT. */
     private static void theDraw() {
+        CHECK.by("Else she ROLLS by SWELL times the DRAW (0 .. 3, the highest two bits of STATE, which becomes 1664525"
+            + " STATE + 1013904223 first, ints that wrap, 0 at first)");
         for (int start : new int[] {0, 1, -1, 12345, Integer.MIN_VALUE, Integer.MAX_VALUE}) {
             for (int draw = 0; draw < 4; draw++) {
                 SoupCargo cargo = new SoupCargo();
@@ -286,6 +323,8 @@ public final class ShipTest {
     }
 
     private static void flowByHeight() {
+        CHECK.by("if its TOP is SOUP, and the next COLUMN to the low side has a HEIGHT that is not more than its own"
+            + " less 1, and 1 more if LEAN is 10 or more");
         SoupCargo cargo = Scene.loaded("soup 1;", 0, 0, 0, 0, 3, 2);
         cargo.sail(0);
         cargo.hours(1);
@@ -328,6 +367,7 @@ public final class ShipTest {
     }
 
     private static void flowToAFullColumn() {
+        CHECK.by("if that has a LAYER left.");
         SoupCargo cargo = Scene.loaded("soup 1;", 0, 0, 0, 0, 6, 6);
         cargo.arm(1, 10);
         cargo.sail(0);
@@ -338,6 +378,7 @@ public final class ShipTest {
     }
 
     private static void flowCarriesAll() {
+        CHECK.by("TOP (ORE, WATER, SHAKEN, SOUP) goes on top there");
         SoupCargo cargo = Scene.loaded("soup 1 when ore=33;", 0, 0, 0, 0, 0, 0);
         Scene.put(cargo, 3, 3, 10, 4);
         Scene.put(cargo, 3, 3, 33, 17);
@@ -353,6 +394,7 @@ public final class ShipTest {
     }
 
     private static void splits() {
+        CHECK.by("SPLIT for T CELLS: what 0 WORST, 1 + h how many in HOLD h. NONE if one can't be, or another what.");
         SoupCargo cargo = new SoupCargo();
         CHECK.due("what 5", cargo.split(0, 5), -1);
         CHECK.due("what -1", cargo.split(0, -1), -1);
@@ -367,19 +409,35 @@ public final class ShipTest {
         for (int what = 0; what < 5; what++) {
             CHECK.due("split 18 " + what, cargo.split(18, what), eighteen[what]);
         }
+    }
+
+    private static void splitsByTheLong() {
+        CHECK.by("that fill COLUMNS from the starboard side on (6 each), added for all HOLDS.");
         Model model = new Model();
         for (int cells = 0; cells <= 144; cells++) {
-            SoupCargo other = new SoupCargo();
+            SoupCargo cargo = new SoupCargo();
             int sum = 0;
+            int worst = 0;
             for (int what = 0; what < 5; what++) {
-                CHECK.due("split " + cells + " " + what, other.split(cells, what), model.split(cells, what));
-                sum += what > 0 ? other.split(cells, what) : 0;
+                CHECK.due("split " + cells + " " + what, cargo.split(cells, what), model.split(cells, what));
+                sum += what > 0 ? cargo.split(cells, what) : 0;
+                worst += what > 0 ? worstOf(cargo.split(cells, what)) : 0;
             }
             CHECK.due("all cells of " + cells, sum, cells);
+            CHECK.due("WORST of " + cells, cargo.split(cells, 0), worst);
         }
     }
 
+    private static int worstOf(int cells) {
+        int worst = 0;
+        for (int n = 0; n < cells; n++) {
+            worst += 5 - 2 * (n / 6);
+        }
+        return worst;
+    }
+
     private static void ports() {
+        CHECK.by("PORT k: 1 if she REACHES it, else 0 (k NONE: THE BEST, NONE if none is reached).");
         SoupCargo cargo = new SoupCargo();
         CHECK.due("port(0)", cargo.port(0), -1);
         CHECK.due("port(401)", cargo.port(401), -1);
@@ -418,6 +476,7 @@ public final class ShipTest {
     }
 
     private static void reachTriesAlone() {
+        CHECK.by("Turned to one, at SEA from NOW on, she REACHES it, if she is not GONE by then, all led as in 2.");
         SoupCargo cargo = Scene.loaded("soup 1; down 1 when clock>1;", 0, 0, 1, 1, 0, 0);
         Scene.put(cargo, 1, 3, 90, 50);
         cargo.sky(0, 1, 2);
@@ -450,6 +509,33 @@ public final class ShipTest {
         CHECK.due("gone in the same hour", other.ship(5), gone);
         CHECK.due("gone she reaches none", other.reach(0), -1);
         CHECK.due("gone she has no best", other.reach(-1), -1);
+    }
+
+    private static void whatTheShipAnswers() {
+        CHECK.by("What 0 NOW, 1 1 at SEA, else 0, 2 MOMENT, 3 WEIGHT, 4 LEAN in the last HOUR at SEA");
+        SoupCargo cargo = Scene.loaded("down layer*3+1; soup ore-10;", 0, 0, 1, 0, 0, 2);
+        Scene.put(cargo, 3, 2, 11, 7);
+        cargo.heap(4, 4, 0, 5, 60);
+        cargo.sort(1);
+        cargo.hours(9);
+        // 3 times 100 at ARM 5, -1 and 5, and 117 at ARM -1
+        shipIs("in port", cargo, 9, 0, 1000 - 100 - 117, 2417, 0, -1, 0, 9, 4, 0, 1);
+        cargo.sail(0);
+        cargo.hours(1);
+        CHECK.by("6 THE WELL, 7 OUT, 8 CELLS in HOLDS with ORE, 9 CELLS that are SOUP, 10 SORT.");
+        // 20 * 784 by 2416 is an ARM of 6.49; the soup has flowed to ARM 1
+        shipIs("at sea", cargo, 10, 1, 1000 - 100 + 116, 2416, 4, -1, 1, 10, 4, 1, 1);
+        cargo.arm(7, 3);
+        cargo.hours(1);
+        CHECK.by("5 the HOUR in which she was GONE (NONE)");
+        // 20 * 1015 by 2415 is an ARM of 8.4; gone, so that nothing flows
+        shipIs("gone", cargo, 11, 1, 1000 - 100 + 115, 2415, 5, 10, 2, 11, 4, 1, 1);
+    }
+
+    private static void shipIs(String when, SoupCargo cargo, int... due) {
+        for (int what = 0; what < due.length; what++) {
+            CHECK.due("ship(" + what + ") " + when, cargo.ship(what), due[what]);
+        }
     }
 
     private static int goneHourOf(int state, SoupCargo cargo) {

@@ -220,7 +220,7 @@ public final class TextEdgesTest {
     }
 
     private static void letters() {
-        CHECK.by("letters as many as stand together are KEYWORDS (those told for such a TEXT) or none");
+        CHECK.by("TOKENS: letters as many as stand together are KEYWORDS (those told for such a TEXT) or none");
         for (String word : "wet water ore layer sort rain clock shaken lit".split(" ")) {
             good("dry " + word + ";");
             CHECK.lawFault("dry " + word + "s;", 1, 4);

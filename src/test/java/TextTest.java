@@ -6,7 +6,12 @@ public final class TextTest {
         tape();
         goodTexts();
         aFaultLeavesWhatWas();
-        values();
+        sums();
+        products();
+        truths();
+        eachLaw();
+        wordsOfLaws();
+        wordsOfTheCode();
         lawFaults();
         codeFaults();
         manyLines();
@@ -16,6 +21,7 @@ public final class TextTest {
     }
 
     private static void tape() {
+        CHECK.by("Twenty bytes come behind the TAPE, of each number the highest first: how many it has.");
         SoupCargo cargo = new SoupCargo();
         CHECK.no("end(1) of an empty tape", cargo.end(1));
         CHECK.yes("end(0) of an empty tape", cargo.end(0));
@@ -54,6 +60,7 @@ public final class TextTest {
     }
 
     private static void goodTexts() {
+        CHECK.by("The TAPE, empty then, are the LAWS: how many lines.");
         good("", 0);
         good(" \n ", 0);
         good("down1;dry2;", 2);
@@ -69,6 +76,7 @@ public final class TextTest {
     }
 
     private static void aFaultLeavesWhatWas() {
+        CHECK.by("NONE: a FAULT (they stay as they were).");
         SoupCargo cargo = new SoupCargo();
         cargo.heap(0, 0, 0, 1, 0);
         Check.laws(cargo, "dry 7; sweat 8;");
@@ -102,19 +110,30 @@ public final class TextTest {
         CHECK.due("when " + b, cargo.told(3, -1, 5, 6, 0), due ? 1 : 0);
     }
 
-    private static void values() {
+    private static void sums() {
+        CHECK.by("E = T {(+ | -) T}.");
         value("1+2*3", 7);
         value("10-3-2", 5);
         value("10-3+2", 9);
+        value("2*3-4*5+6/4", -13);
+        value("3-9*wet/4", -26);
+        value("wet*1000+ore", 13007);
+    }
+
+    private static void products() {
+        CHECK.by("T = U {* U | / NUMBER}.");
         value("2*3/4*5", 5);
         value("7/2*2", 6);
         value("0-7/2", -3);
         value("1-8*1/3", -1);
         value("100/3/4", 8);
-        value("3-9*wet/4", -26);
+        value("water*ore/13-1", 49);
         value("9999*9999*9999", (int) (9999L * 9999 * 9999));
         value("9999*9999*9999/7", (int) (9999L * 9999 * 9999) / 7);
-        value("wet*1000+ore", 13007);
+    }
+
+    private static void truths() {
+        CHECK.by("B = A {or A}.  A = C {and C}.  C = E (< | = | >) E | not C | ( B ).");
         truth("1<2", true);
         truth("2<2", false);
         truth("2=2", true);
@@ -131,7 +150,69 @@ public final class TextTest {
         truth("1+1=2*1 and 5-3<3", true);
     }
 
+    private static void eachLaw() {
+        CHECK.by("LAWS are a TEXT (empty at first) = {(down | dry | soup | sweat) E [when B] ;}.");
+        String[] heads = {"down", "dry", "soup", "sweat"};
+        for (int which = 0; which < 4; which++) {
+            SoupCargo cargo = Scene.withLaws(heads[which] + " 5 when ore=9; " + heads[which] + " 7;");
+            cargo.heap(0, 0, 0, 9, 0);
+            cargo.heap(0, 0, 1, 8, 0);
+            for (int other = 0; other < 4; other++) {
+                CHECK.due(heads[other] + " with when", cargo.told(other, -1, 0, 0, 0), other == which ? 5 : 0);
+                CHECK.due(heads[other] + " without", cargo.told(other, -1, 0, 0, 1), other == which ? 7 : 0);
+            }
+        }
+    }
+
+    /** A cell of the heap that is lit, at hour 30, and one that has been shaken in a hold, at hour 31. */
+    private static void wordsOfLaws() {
+        CHECK.by("U = NUMBER | wet | water | ore | layer | sort | rain | clock | shaken | lit in LAWS;");
+        String[] words = {"wet", "water", "ore", "layer", "sort", "rain", "clock", "shaken", "lit"};
+        int[] ofHeap = {12, 87, 7, 1, 2, 8, 6, 0, 1};
+        int[] ofHold = {6, 20, 3, 1, 2, 8, 7, 5, 0};
+        SoupCargo cargo = new SoupCargo();
+        cargo.sort(2);
+        cargo.sky(1, 8, 5);
+        Scene.passTo(cargo, 30);
+        Scene.put(cargo, 2, 3, 1, 0);
+        Scene.put(cargo, 2, 3, 3, 20);
+        cargo.heap(1, 2, 0, 9, 9);
+        cargo.heap(1, 2, 1, 7, 87);
+        for (int i = 0; i < words.length; i++) {
+            Check.laws(cargo, "sweat " + words[i] + ";");
+            CHECK.due(words[i] + " of the heap", cargo.told(3, -1, 1, 2, 1), ofHeap[i]);
+        }
+        CHECK.by("of its wet, water, ore, layer (z), sort, rain of the DAY, clock, shaken (of a HOLD's CELL, else 0), lit");
+        cargo.sail(0);
+        cargo.hours(1);
+        for (int i = 0; i < words.length; i++) {
+            Check.laws(cargo, "sweat " + words[i] + ";");
+            CHECK.due(words[i] + " of a hold", cargo.told(3, 2, 3, 0, 1), ofHold[i]);
+        }
+    }
+
+    private static void wordsOfTheCode() {
+        CHECK.by("NUMBER | said | can | age | rain | day | loaded | swell | port in THE CODE.");
+        String[] words = {"17", "said", "can", "age", "rain", "day", "loaded", "swell", "port"};
+        int[] due = {17, 33, 4, 26, 8, 1, 2, 5, 1};
+        SoupCargo cargo = new SoupCargo();
+        cargo.paper(33);
+        cargo.sky(1, 8, 5);
+        cargo.heap(0, 0, 0, 2, 9);
+        cargo.hours(3);
+        cargo.can(0, 0, 0);
+        Scene.passTo(cargo, 29);
+        Scene.put(cargo, 0, 0, 1, 0);
+        Scene.put(cargo, 3, 5, 1, 0);
+        for (int i = 0; i < words.length; i++) {
+            Check.code(cargo, "load 3 when " + words[i] + "=" + due[i] + "; test 1 when not " + words[i] + "=" + due[i] + ";");
+            CHECK.due(words[i] + " is " + due[i], cargo.may(3, 0), 1);
+            CHECK.due(words[i] + " is not " + due[i], cargo.may(1, 2), 0);
+        }
+    }
+
     private static void lawFaults() {
+        CHECK.by("1 what can't stand there (the end: the text's length).");
         CHECK.lawFault("down", 1, 4);
         CHECK.lawFault("down  ", 1, 6);
         CHECK.lawFault("down 1", 1, 6);
@@ -194,6 +275,7 @@ public final class TextTest {
     }
 
     private static void codeFaults() {
+        CHECK.by("{(load | stop | test) N when B ;} (N: a PERSON 0 .. 3).");
         CHECK.codeFault("load", 1, 4);
         CHECK.codeFault("load when 1=1;", 1, 5);
         CHECK.codeFault("load said when 1=1;", 1, 5);
@@ -212,6 +294,7 @@ public final class TextTest {
     }
 
     private static void manyLines() {
+        CHECK.by("the 17th line;");
         SoupCargo cargo = new SoupCargo();
         CHECK.due("16 laws", Check.laws(cargo, "dry 5;".repeat(16)), 16);
         CHECK.due("16 lines of code", Check.code(cargo, "load 1 when 1=1;".repeat(16)), 16);
@@ -231,6 +314,7 @@ public final class TextTest {
     }
 
     private static void openOnes() {
+        CHECK.by("the 9th ( or not that is open.");
         good("soup 1 when " + "(".repeat(8) + "1=1" + ")".repeat(8) + ";", 1);
         good("soup 1 when " + "not ".repeat(8) + "1=1;", 1);
         good("soup 1 when " + "not(".repeat(4) + "1=1" + ")".repeat(4) + ";", 1);
@@ -254,6 +338,7 @@ public final class TextTest {
     }
 
     private static void latestFault() {
+        CHECK.by("Of the latest laws() or code():");
         SoupCargo cargo = new SoupCargo();
         CHECK.due("fault(0) at first", cargo.fault(0), 0);
         CHECK.due("fault(1) at first", cargo.fault(1), -1);
